@@ -555,15 +555,19 @@ public final class CousinShares {
             return sum;
         }
 
-        int placeOf(int cousin) {
+        boolean isAhead(int cousin, int other) {
             if (settings[ORDER] == 0) {
-                return cousin;
+                return cousin < other;
             }
-            int own = grudgesOf(cousin);
+            int sum = grudgesOf(cousin);
+            int otherSum = grudgesOf(other);
+            return sum > otherSum || (sum == otherSum && cousin < other);
+        }
+
+        int placeOf(int cousin) {
             int place = 0;
             for (int other = 0; other < COUSINS; other++) {
-                int sum = grudgesOf(other);
-                if (sum > own || (sum == own && other < cousin)) {
+                if (isAhead(other, cousin)) {
                     place++;
                 }
             }
@@ -609,9 +613,7 @@ public final class CousinShares {
         void run(int cousins) {
             trims = 0;
             grudgeTrims = 0;
-            for (int cousin = 0; cousin < COUSINS; cousin++) {
-                byOrder[harvest.placeOf(cousin)] = cousin;
-            }
+            lineUp();
             int left = cousins;
             int start = 0;
             for (int n = Integer.bitCount(cousins); n > 1; n--) {
@@ -622,6 +624,17 @@ public final class CousinShares {
             }
             lastCousin = firstOf(left);
             handOut(start, PLOTS, lastCousin);
+        }
+
+        private void lineUp() {
+            for (int cousin = 0; cousin < COUSINS; cousin++) {
+                int place = cousin;
+                while (place > 0 && harvest.isAhead(cousin, byOrder[place - 1])) {
+                    byOrder[place] = byOrder[place - 1];
+                    place--;
+                }
+                byOrder[place] = cousin;
+            }
         }
 
         private void cutAndTrim(int left, int n, int start) {
@@ -722,7 +735,8 @@ public final class CousinShares {
         }
 
         int seeming(int cousin, int other) {
-            return worthOf(cousin, other) * (10 + harvest.grudgeOf(cousin, other)) / 10;
+            int pair = cousin * COUSINS + other;
+            return worths[pair] * (10 + harvest.grudges[pair]) / 10;
         }
 
         int envy(int cousin, int other) {
@@ -969,7 +983,7 @@ public final class CousinShares {
         }
 
         void record(Harvest state) {
-            if (count == HISTORY_STATES) {
+            if (count >= HISTORY_STATES) {
                 dropOldest();
             }
             states[count].copyFrom(state);
