@@ -1,58 +1,5 @@
 /** Each promise of the document, with answers worked out by hand from its words. */
-public final class PromisesTest {
-    private static final int UNKNOWN = -1;
-    private static final int OUT_OF_RANGE = -2;
-    private static final int FULL = -3;
-    private static final int NONE = -5;
-    private static final int[] WRONG = {-1, Integer.MIN_VALUE, Integer.MAX_VALUE};
-
-    private static int wrong = 0;
-
-    private static void due(String call, int got, int want) {
-        if (got != want) {
-            wrong++;
-            System.out.println(call + " answered " + got + ", due is " + want);
-        }
-    }
-
-    private static int write(CousinShares x, String text) {
-        int length = x.clearText();
-        for (int i = 0; i < text.length(); i++) {
-            length = x.type(text.charAt(i));
-        }
-        return length;
-    }
-
-    private static int perform(CousinShares x, String text) {
-        write(x, text);
-        return x.perform();
-    }
-
-    /** Gives the plots by a row of owners, a digit each; 7 for nobody. */
-    private static CousinShares owned(String owners) {
-        CousinShares x = new CousinShares();
-        for (int plot = 0; plot < owners.length(); plot++) {
-            x.give(plot, owners.charAt(plot) - '0');
-        }
-        return x;
-    }
-
-    private static String owners(CousinShares x) {
-        StringBuilder row = new StringBuilder();
-        for (int plot = 0; plot < 24; plot++) {
-            row.append(x.plot(plot, 4));
-        }
-        return row.toString();
-    }
-
-    private static void dueOwners(String call, CousinShares x, String want) {
-        String got = owners(x);
-        if (!got.equals(want)) {
-            wrong++;
-            System.out.println(call + " left " + got + ", due is " + want);
-        }
-    }
-
+public final class PromisesTest extends Answers {
     private static void promise1NewObject() {
         due("UNKNOWN", CousinShares.UNKNOWN, -1);
         due("OUT_OF_RANGE", CousinShares.OUT_OF_RANGE, -2);
@@ -723,9 +670,6 @@ public final class PromisesTest {
         promise20IfDivided();
         promise21BestTrade();
         promise22BestWithout();
-        System.out.println(wrong == 0 ? "all promises hold" : wrong + " answers are not as due");
-        if (wrong != 0) {
-            System.exit(1);
-        }
+        finish();
     }
 }
