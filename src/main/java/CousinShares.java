@@ -30,9 +30,10 @@ public final class CousinShares {
 
     /*
      * Every trade gives two cousins a share that each likes better than the
-     * one before, out of the same seven shares: so 21 trades are the most.
+     * one before, out of the same seven shares: so 21 trades are the most,
+     * and this bound is never reached.
      */
-    private static final int MOST_TRADES = COUSINS * (COUSINS - 1) / 2;
+    private static final int TRADE_BOUND = 1000;
 
     private final Harvest now;
     private final Division division;
@@ -167,7 +168,7 @@ public final class CousinShares {
         do {
             tradeNow(shares.bestFirst, shares.bestSecond);
             trades++;
-        } while (trades < MOST_TRADES && shares.findBestTrade());
+        } while (trades < TRADE_BOUND && shares.findBestTrade());
         return trades;
     }
 

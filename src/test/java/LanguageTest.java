@@ -81,6 +81,18 @@ public final class LanguageTest {
         }
     }
 
+    /** Rules 5 and 11, for the class itself and those inside it. */
+    private static void checkMembers(Class<?> c) {
+        for (Field field : c.getDeclaredFields()) {
+            int modifiers = field.getModifiers();
+            check(!Modifier.isStatic(modifiers) || (Modifier.isFinal(modifiers) && field.getType() == int.class),
+                field.getName() + " is static, but no constant");
+        }
+        for (Method method : c.getDeclaredMethods()) {
+            check(method.getParameterCount() <= 7, method.getName() + " takes too many parameters");
+        }
+    }
+
     private static void checkWords() throws IOException {
         String source = Files.readString(Path.of("src/main/java/CousinShares.java"));
         String code = source.replaceAll("(?s)/\\*.*?\\*/", "").replaceAll("//[^\n]*", "");
@@ -94,6 +106,10 @@ public final class LanguageTest {
     public static void main(String[] args) throws IOException {
         checkFace();
         checkClasses();
+        checkMembers(CousinShares.class);
+        for (Class<?> inside : CousinShares.class.getDeclaredClasses()) {
+            checkMembers(inside);
+        }
         checkWords();
         System.out.println(wrong == 0 ? "the rules that are looked at are kept" : wrong + " faults");
         if (wrong != 0) {

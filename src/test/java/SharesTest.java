@@ -311,6 +311,43 @@ public final class SharesTest extends Answers {
         due("a grudge keeps them from it", x.settle(), NONE);
     }
 
+    /** Seven plots, one for each cousin; grudges decide which trade is the best, but keep nobody from one. */
+    private static CousinShares longSettling() {
+        String[] amounts = {"1484", "2711", "1048", "6182", "7026", "3384", "8151"};
+        String[] weights = {"8065", "1328", "2660", "3715", "7840", "9013", "1918"};
+        String[] grudges = {"0403873", "0084535", "2406048", "2070152", "2292071", "7402601", "1783080"};
+        CousinShares x = new CousinShares();
+        for (int cousin = 0; cousin < 7; cousin++) {
+            perform(x, "p" + cousin + "=" + amounts[cousin] + ";w" + cousin + "=" + weights[cousin]);
+            for (int other = 0; other < 7; other++) {
+                x.grudge(cousin, other, grudges[cousin].charAt(other) - '0');
+            }
+        }
+        x.set(1, 10);
+        giveAll(x, "0123456");
+        return x;
+    }
+
+    private static void checkLongSettling() {
+        int[][] trades = {{2, 6, 1385}, {1, 4, 1012}, {3, 5, 811}, {0, 3, 719}, {2, 5, 631}, {0, 1, 641}, {1, 6, 601},
+            {4, 6, 590}, {3, 6, 578}, {0, 5, 579}, {2, 4, 664}, {0, 4, 633}};
+        CousinShares x = longSettling();
+        for (int[] trade : trades) {
+            due("the best trade of then", x.bestTrade(0), 10 * trade[0] + trade[1]);
+            due("what it leaves", x.bestTrade(1), trade[2]);
+            due("trade", x.trade(trade[0], trade[1]), trade[2]);
+        }
+        due("nobody wants one more", x.bestTrade(0), NONE);
+        CousinShares y = longSettling();
+        due("twelve trades at once", y.settle(), trades.length);
+        dueOwners("twelve trades at once", y, "6310524" + "7".repeat(17));
+        dueText("the same as one by one", state(y), state(x));
+        due("trades so far", y.total(8), trades.length);
+        due("one change", y.undo(), 3);
+        dueOwners("all undone", y, "0123456" + "7".repeat(17));
+        due("trades undone", y.total(8), 0);
+    }
+
     private static void checkPairsThatWouldTrade() {
         CousinShares x = owned("0123456");
         due("alike", x.total(5), 0);
@@ -359,6 +396,7 @@ public final class SharesTest extends Answers {
         checkBestTrade();
         checkTradeThatLeavesMoreEnvy();
         checkSettle();
+        checkLongSettling();
         checkPairsThatWouldTrade();
         checkPlaces();
         finish();
